@@ -254,6 +254,10 @@ public final class PromisesTest {
         due("kind", x.head(0, 0), 1);
         due("figure", x.head(0, 1), 9);
         due("word", x.head(0, 4), 1);
+        dueLand(x, "folk 8 0 c;joins 0 0;", 2);
+        due("people", x.field(8, 1), 0);
+        due("letter", x.field(8, 2), 2);
+        due("followers", x.head(0, 5), 0);
         dueLand(x, "wall 07 00;folk 08 09 a;mermaid 02 b 09;joins 01 07;", 4);
         due("wall", x.field(7, 0), 0);
         due("people", x.field(8, 1), 9);
@@ -798,6 +802,15 @@ public final class PromisesTest {
         due("told now", two.count(2), 0);
     }
 
+    /** She is on 46 behind 60 nights, on 47 behind 61: each of 6 walls takes her 9, and a step. */
+    private static GoInland farLand() {
+        GoInland x = told("lady 0 a 40;face 0 e;");
+        for (int field = 41; field <= 46; field++) {
+            x.walls(field, 9);
+        }
+        return x;
+    }
+
     private static void when() {
         promise = "17";
         GoInland x = told("lady 0 a 40;lady 0 b 7;does 1 rest;");
@@ -817,6 +830,9 @@ public final class PromisesTest {
         due("the last night", told("collier 0 ab 8;").when(0, 9), 1);
         GoInland queen = told("queen 0 b 40;");
         due("she goes over 32 in the first night", queen.when(0, 32), 20);
+        GoInland far = farLand();
+        due("in the last night", far.when(0, 46), 60);
+        due("a night too late", far.when(0, 47), -9);
     }
 
     private static void settles() {
@@ -839,6 +855,18 @@ public final class PromisesTest {
         due("no head 0", new GoInland().settles(0), -1);
         GoInland several = told("lady 0 a 0;lady 0 b 9;joins 1 20;lady 0 c 18;joins 2 20;");
         due("of several the least", several.settles(-1), 1);
+        GoInland later = told("lady 0 a 40;folk 24 9 a;joins 0 11;lady 0 b 47;joins 1 20;");
+        later.then(60, 0);
+        due("the greater number, a night ahead", later.settles(-1), 1);
+        GoInland far = farLand();
+        far.joins(0, 11);
+        far.folk(46, 9, 0);
+        due("in the last night", far.settles(0), 60);
+        due("first in the last night", far.settles(-1), 0);
+        far.folk(46, 0, 0);
+        far.folk(47, 9, 0);
+        due("a night too late", far.settles(0), -9);
+        due("first a night too late", far.settles(-1), -9);
     }
 
     private static void meeting() {
@@ -851,6 +879,13 @@ public final class PromisesTest {
         due("meeting(1, 1)", x.meeting(1, 1), -1);
         due("meeting(0, 4)", x.meeting(0, 4), -1);
         due("meeting(-1, 0)", x.meeting(-1, 0), -1);
+        GoInland far = farLand();
+        far.comes(0, 0, 46, 1);
+        far.comes(0, 0, 47, 1);
+        far.does(1, 4);
+        far.does(2, 4);
+        due("in the last night", far.meeting(0, 1), 60);
+        due("a night too late", far.meeting(0, 2), -9);
     }
 
     private static void bestWord() {
@@ -940,6 +975,8 @@ public final class PromisesTest {
         due("wallFor(0, 0, -1)", x.wallFor(0, 0, -1), -4);
         due("wallFor(0, 0, 31)", x.wallFor(0, 0, 31), -6);
         due("walls", x.count(6), 1);
+        GoInland rests = told("lady 0 b 40;does 0 rest;");
+        due("resting, behind 30", rests.wallFor(0, 40, 30), 0);
     }
 
     private static void names() {
@@ -959,6 +996,7 @@ public final class PromisesTest {
         due("better as it is", good.names(1), -9);
         GoInland same = told("lady 0 a 18;lady 0 b 20;");
         due("no more than as it is", same.names(30), -9);
+        due("5 heads", fullLand().names(30), -9);
     }
 
     private static void whatKind() {
@@ -1039,8 +1077,13 @@ public final class PromisesTest {
         due("two(0, 1, 0)", x.two(0, 1, 0), -4);
         due("two(0, 1, 31)", x.two(0, 1, 31), -6);
         due("word", x.head(0, 4), 0);
-        GoInland none = told("lady 0 z 1;joins 0 12;face 0 e;lady 9 y 2;does 1 on;face 1 n;");
-        due("the lesser rests", none.two(0, 1, 1), 11);
+        GoInland rests = told("lady 0 a 18;does 0 rest;lady 0 a 20;");
+        due("behind 30", rests.two(0, 1, 30), 11);
+        GoInland none = told("slaver 0 b 18;joins 0 20;queen 9 a 20;face 1 w;");
+        due("one flees, the other comes to rest", none.two(0, 1, 1), -9);
+        due("the same, seen from the other", none.two(1, 0, 1), -9);
+        none.joins(0, 8);
+        due("half of 8 is not worth her way", none.two(0, 1, 1), 11);
     }
 
     private static void dueRain(GoInland x, int head, int field, int n, int t, long above, long below) {
@@ -1066,6 +1109,11 @@ public final class PromisesTest {
         dueRain(queen, 1, 45, 1, 2, 1, 2);
         dueRain(queen, 1, 27, 2, 2, 1, 4);
         dueRain(queen, 1, 45, 2, 2, 1, 4);
+        GoInland third = told("nights 2;queen 0 b 43;");
+        dueRain(third, 0, 29, 2, 2, 1, 4);
+        dueRain(third, 0, 27, 2, 2, 1, 4);
+        dueRain(third, 0, 45, 2, 2, 1, 4);
+        dueRain(third, 0, 43, 2, 2, 1, 4);
         due("rain(2, 0, -1, 1, 9)", x.rain(2, 0, -1, 1, 9), refused(-1));
         due("rain(0, 48, -1, 1, 9)", x.rain(0, 48, -1, 1, 9), refused(-1));
         due("rain(0, 0, -1, 21, 9)", x.rain(0, 0, -1, 21, 9), refused(-4));
@@ -1101,6 +1149,10 @@ public final class PromisesTest {
         GoInland whole = told("lady 0 abc 1;lady 0 abc 1;");
         due("whole ahead", whole.like(0, 1, 1), 3);
         due("whole places", whole.like(0, 1, 0), 3);
+        GoInland six = told("lady 0 abcdef 1;lady 0 abcdef 1;");
+        for (int what = 0; what < 3; what++) {
+            due("6 letters alike", six.like(0, 1, what), 6);
+        }
     }
 
     private static void rank() {
@@ -1113,6 +1165,10 @@ public final class PromisesTest {
         due("c", x.rank(4), 4);
         due("rank(5)", x.rank(5), -1);
         due("rank(-1)", x.rank(-1), -1);
+        GoInland six = told("lady 0 abcdef 1;lady 0 abcdef 1;lady 0 abcde 1;");
+        due("6 letters", six.rank(0), 1);
+        due("6 letters alike", six.rank(1), 2);
+        due("5 letters", six.rank(2), 0);
     }
 
     private static void line() {
@@ -1218,6 +1274,20 @@ public final class PromisesTest {
         due("way(0, 48)", x.way(0, 48), -1);
         due("way(-1, 0)", x.way(-1, 0), -1);
         due("way(0, -1)", x.way(0, -1), -1);
+        GoInland corner = new GoInland();
+        corner.way(0, 47);
+        corner.walls(1, 1);
+        corner.walls(8, 1);
+        due("to a walled corner", corner.way(47, 0), -9);
+    }
+
+    /** All the heads there may be: a, b, c, d, e on the fields 3, 3, 4, 5, 6. */
+    private static GoInland fullLand() {
+        GoInland x = new GoInland();
+        for (int i = 0; i < 5; i++) {
+            x.comes(i, 1, Math.max(3, i + 2), i);
+        }
+        return x;
     }
 
     private static void sight() {
@@ -1228,6 +1298,12 @@ public final class PromisesTest {
         due("alone", x.sight(2), 1 | 8);
         due("sight(3)", x.sight(3), -2);
         due("sight(-1)", x.sight(-1), -2);
+        GoInland full = fullLand();
+        full.folk(0, 6, 25);
+        due("vowels of 5", full.sight(0), 2);
+        due("hungry on field 0", full.sight(1), 6);
+        due("alone of 5", full.sight(2), 28);
+        due("nobody", new GoInland().sight(2), 0);
     }
 
     private static void kinds() {
@@ -1321,7 +1397,7 @@ public final class PromisesTest {
         GoInland x = lotsLand(false);
         int allTold = 0;
         int allSettled = 0;
-        for (int game = 0; game < 12; game++) {
+        for (int game = 0; game < 60; game++) {
             int z = game * 1234567891;
             seed = z;
             GoInland drawn = lotsLand(true);
@@ -1333,6 +1409,18 @@ public final class PromisesTest {
             due("settled in two games", x.lots(2, z, 1), settled + x.lots(1, seed, 1));
             allTold += told;
             allSettled += settled;
+        }
+        GoInland met = told("lady 0 b 8;collier 0 a 0;nights 1;");
+        due("told now", met.count(2), 2);
+        for (int z = 0; z < 60; z++) {
+            seed = z;
+            GoInland drawn = new GoInland();
+            drawn.nights(1);
+            drawn.comes(0, 0, drawBelow(48), 1);
+            drawn.faces(0, drawBelow(4));
+            drawn.comes(5, 0, drawBelow(48), 0);
+            drawn.faces(1, drawBelow(4));
+            due("told more by seed " + z, met.lots(1, z, 0), drawn.nights(12));
         }
         due("some met", allTold > 0 ? 1 : 0, 1);
         due("some settled", allSettled > 0 ? 1 : 0, 1);
@@ -1391,6 +1479,24 @@ public final class PromisesTest {
         late.walls(1, 1);
         due("restore() refused", late.restore(), -3);
         due("leaves what can be taken back", late.count(9), 1);
+        GoInland empty = new GoInland();
+        empty.image();
+        empty.comes(0, 5, 20, 3);
+        empty.named(0, 1);
+        empty.faces(0, 2);
+        empty.does(0, 1);
+        empty.joins(0, 30);
+        empty.nights(1);
+        dueLine(empty, 0, "db 21e!");
+        due("restore()", empty.restore(), 0);
+        due("heads", empty.count(0), 0);
+        due("settled", empty.count(3), 0);
+        due("followers", empty.count(4), 0);
+        due("vowels", empty.sight(0), 0);
+        due("comes() anew", empty.comes(1, 1, 7, 2), 0);
+        dueLine(empty, 0, "c 7n0");
+        due("word", empty.head(0, 4), 0);
+        due("letters", empty.head(0, 7), 1);
     }
 
     private static void count() {
@@ -1429,5 +1535,13 @@ public final class PromisesTest {
         due("room", x.count(16), 2);
         GoInland two = told("lady 0 b 8;collier 0 a 0;nights 1;");
         due("told", two.count(2), 2);
+        GoInland full = fullLand();
+        full.folk(0, 6, 0);
+        full.walls(0, 7);
+        full.joins(4, 9);
+        due("settled of 5", full.count(3), 0);
+        due("followers of 5", full.count(4), 9);
+        due("people on field 0", full.count(5), 6);
+        due("wall on field 0", full.count(6), 7);
     }
 }
