@@ -1,5 +1,6 @@
 /** A land of fields on which figureheads go by nights. What each call answers is told in DOC.md. */
 public final class GoInland {
+    private static final int FINE = 0;
     private static final int NOBODY = -1;
     private static final int OTHER = -2;
     private static final int STATE = -3;
@@ -79,6 +80,24 @@ public final class GoInland {
 
     private boolean noPair(int one, int other) {
         return noHead(one) || noHead(other) || one == other;
+    }
+
+    /** What is wrong first: that somebody or some place is not there, or that a number is out of its range. */
+    private static int faultOfNumber(boolean nobody, int v, int least, int most) {
+        if (nobody) {
+            return NOBODY;
+        }
+        if (v < least) {
+            return BELOW;
+        }
+        return v > most ? ROOM : FINE;
+    }
+
+    /** The same, and last that there is no such thing to be asked. */
+    private static int faultOfAsked(boolean nobody, int v, int least, int most, int what, int mostWhat) {
+        int fault = faultOfNumber(nobody, v, least, most);
+        boolean other = what < 0 || what > mostWhat;
+        return fault == FINE && other ? OTHER : fault;
     }
 
     // ---- A land told in letters ----
@@ -185,14 +204,9 @@ public final class GoInland {
     }
 
     public int faces(int head, int facing) {
-        if (noHead(head)) {
-            return refuse(NOBODY);
-        }
-        if (facing < 0) {
-            return refuse(BELOW);
-        }
-        if (facing >= DIRECTIONS) {
-            return refuse(ROOM);
+        int fault = faultOfNumber(noHead(head), facing, 0, DIRECTIONS - 1);
+        if (fault != FINE) {
+            return refuse(fault);
         }
         past.keep(now);
         int old = now.heads[head].facing;
@@ -214,14 +228,9 @@ public final class GoInland {
     }
 
     public int joins(int head, int v) {
-        if (noHead(head)) {
-            return refuse(NOBODY);
-        }
-        if (v < 0) {
-            return refuse(BELOW);
-        }
-        if (v > MOST_FOLLOWERS) {
-            return refuse(ROOM);
+        int fault = faultOfNumber(noHead(head), v, 0, MOST_FOLLOWERS);
+        if (fault != FINE) {
+            return refuse(fault);
         }
         past.keep(now);
         int old = now.heads[head].followers;
@@ -230,14 +239,9 @@ public final class GoInland {
     }
 
     public int walls(int field, int v) {
-        if (noField(field)) {
-            return refuse(NOBODY);
-        }
-        if (v < 0) {
-            return refuse(BELOW);
-        }
-        if (v > MOST_WALL) {
-            return refuse(ROOM);
+        int fault = faultOfNumber(noField(field), v, 0, MOST_WALL);
+        if (fault != FINE) {
+            return refuse(fault);
         }
         past.keep(now);
         int old = now.wall[field];
@@ -285,17 +289,9 @@ public final class GoInland {
     // ---- In mind ----
 
     public int headThen(int head, int n, int what) {
-        if (noHead(head)) {
-            return refuse(NOBODY);
-        }
-        if (n < 0) {
-            return refuse(BELOW);
-        }
-        if (n > FAR_NIGHTS) {
-            return refuse(ROOM);
-        }
-        if (what < 0 || what > 3) {
-            return refuse(OTHER);
+        int fault = faultOfAsked(noHead(head), n, 0, FAR_NIGHTS, what, 3);
+        if (fault != FINE) {
+            return refuse(fault);
         }
         Head one = mind.behindNights(now, n).heads[head];
         switch (what) {
@@ -307,14 +303,9 @@ public final class GoInland {
     }
 
     public int then(int n, int what) {
-        if (n < 0) {
-            return refuse(BELOW);
-        }
-        if (n > FAR_NIGHTS) {
-            return refuse(ROOM);
-        }
-        if (what < 0 || what > 3) {
-            return refuse(OTHER);
+        int fault = faultOfAsked(false, n, 0, FAR_NIGHTS, what, 3);
+        if (fault != FINE) {
+            return refuse(fault);
         }
         Land later = mind.behindNights(now, n);
         switch (what) {
@@ -350,69 +341,44 @@ public final class GoInland {
     }
 
     public int bestWord(int head, int n, int what) {
-        if (noHead(head)) {
-            return refuse(NOBODY);
+        int fault = faultOfAsked(noHead(head), n, 0, FAR_NIGHTS, what, 1);
+        if (fault != FINE) {
+            return refuse(fault);
         }
-        if (n < 0) {
-            return refuse(BELOW);
-        }
-        if (n > FAR_NIGHTS) {
-            return refuse(ROOM);
-        }
-        if (what < 0 || what > 1) {
-            return refuse(OTHER);
-        }
-        return mind.wordOfMost(now, head, n, what == 1);
+        return mind.bestChoice(now, head, n, Mind.HER_WORD, what == 1);
     }
 
     public int bestLetter(int head, int n, int what) {
-        if (noHead(head)) {
-            return refuse(NOBODY);
+        int fault = faultOfAsked(noHead(head), n, 0, NEAR_NIGHTS, what, 1);
+        if (fault != FINE) {
+            return refuse(fault);
         }
-        if (n < 0) {
-            return refuse(BELOW);
+        if (now.heads[head].hasFullName()) {
+            return NONE;
         }
-        if (n > NEAR_NIGHTS) {
-            return refuse(ROOM);
-        }
-        if (what < 0 || what > 1) {
-            return refuse(OTHER);
-        }
-        return mind.letterOfMost(now, head, n, what == 1);
+        return mind.bestChoice(now, head, n, Mind.HER_NEXT_LETTER, what == 1);
     }
 
     public int holds(int head, int field, int n) {
-        if (noHead(head) || noField(field)) {
-            return refuse(NOBODY);
-        }
-        if (n < 1) {
-            return refuse(BELOW);
-        }
-        if (n > FAR_NIGHTS) {
-            return refuse(ROOM);
+        int fault = faultOfNumber(noHead(head) || noField(field), n, 1, FAR_NIGHTS);
+        if (fault != FINE) {
+            return refuse(fault);
         }
         return mind.leastWallThatHolds(now, head, field, n);
     }
 
     public int wallFor(int head, int field, int n) {
-        if (noHead(head) || noField(field)) {
-            return refuse(NOBODY);
-        }
-        if (n < 0) {
-            return refuse(BELOW);
-        }
-        if (n > NEAR_NIGHTS) {
-            return refuse(ROOM);
+        int fault = faultOfNumber(noHead(head) || noField(field), n, 0, NEAR_NIGHTS);
+        if (fault != FINE) {
+            return refuse(fault);
         }
         return mind.fieldToWall(now, head, field, n);
     }
 
     public int names(int n) {
-        if (n < 0) {
-            return refuse(BELOW);
-        }
-        if (n > NEAR_NIGHTS) {
-            return refuse(ROOM);
+        int fault = faultOfNumber(false, n, 0, NEAR_NIGHTS);
+        if (fault != FINE) {
+            return refuse(fault);
         }
         return mind.namesToChange(now, n);
     }
@@ -422,8 +388,8 @@ public final class GoInland {
             return refuse(NOBODY);
         }
         switch (what) {
-            case 0: return mind.kindsOfWay(now, head, row, rowSize);
-            case 1: return mind.figuresOfWay(now, head, row, rowSize);
+            case 0: return mind.choicesOfWay(now, head, Mind.HER_KIND, row, rowSize);
+            case 1: return mind.choicesOfWay(now, head, Mind.HER_FIGURE, row, rowSize);
             default: return refuse(OTHER);
         }
     }
@@ -432,18 +398,13 @@ public final class GoInland {
         if (noHead(head)) {
             return refuse(NOBODY);
         }
-        return mind.wordsOfWay(now, head, row, rowSize);
+        return mind.choicesOfWay(now, head, Mind.HER_WORD, row, rowSize);
     }
 
     public int two(int one, int other, int n) {
-        if (noPair(one, other)) {
-            return refuse(NOBODY);
-        }
-        if (n < 1) {
-            return refuse(BELOW);
-        }
-        if (n > NEAR_NIGHTS) {
-            return refuse(ROOM);
+        int fault = faultOfNumber(noPair(one, other), n, 1, NEAR_NIGHTS);
+        if (fault != FINE) {
+            return refuse(fault);
         }
         return mind.steadyPair(now, one, other, n);
     }
@@ -637,14 +598,9 @@ public final class GoInland {
     }
 
     public int lots(int n, int z, int what) {
-        if (n < 1) {
-            return refuse(BELOW);
-        }
-        if (n > MOST_GAMES) {
-            return refuse(ROOM);
-        }
-        if (what < 0 || what > 1) {
-            return refuse(OTHER);
+        int fault = faultOfAsked(false, n, 1, MOST_GAMES, what, 1);
+        if (fault != FINE) {
+            return refuse(fault);
         }
         return mind.playGames(now, n, z, what == 1);
     }
@@ -712,7 +668,7 @@ public final class GoInland {
             settled = false;
         }
 
-        void copy(Head other) {
+        void become(Head other) {
             kind = other.kind;
             figure = other.figure;
             copyName(other);
@@ -915,7 +871,7 @@ public final class GoInland {
             System.arraycopy(other.people, 0, people, 0, FIELDS);
             System.arraycopy(other.letter, 0, letter, 0, FIELDS);
             for (int i = 0; i < other.headCount; i++) {
-                heads[i].copy(other.heads[i]);
+                heads[i].become(other.heads[i]);
             }
             headCount = other.headCount;
             night = other.night;
@@ -1396,6 +1352,11 @@ public final class GoInland {
     /** What would become of a land, thought through on a land of its own. */
     private static final class Mind {
         private static final int WITHOUT_SIGN = 0x7fffffff;
+        /** What of a head can be chosen otherwise. */
+        private static final int HER_KIND = 0;
+        private static final int HER_FIGURE = 1;
+        private static final int HER_WORD = 2;
+        private static final int HER_NEXT_LETTER = 3;
 
         private final Land thought = new Land();
         private int seed;
@@ -1456,30 +1417,35 @@ public final class GoInland {
             return NONE;
         }
 
-        int wordOfMost(Land now, int head, int n, boolean howMany) {
-            int best = NONE;
-            int most = NONE;
-            for (int word = 0; word < WORDS; word++) {
-                think(now);
-                thought.heads[head].word = word;
-                thought.passNights(n);
-                if (thought.heads[head].followers > most) {
-                    best = word;
-                    most = thought.heads[head].followers;
-                }
+        private static int choicesOf(int trait) {
+            switch (trait) {
+                case HER_KIND: return KINDS;
+                case HER_FIGURE: return MOST_FIGURE + 1;
+                case HER_WORD: return WORDS;
+                default: return LETTERS;
             }
-            return howMany ? most : best;
         }
 
-        int letterOfMost(Land now, int head, int n, boolean howMany) {
+        private void choose(int head, int trait, int choice) {
+            switch (trait) {
+                case HER_KIND: thought.heads[head].kind = choice; break;
+                case HER_FIGURE: thought.heads[head].figure = choice; break;
+                case HER_WORD: thought.heads[head].word = choice; break;
+                default: thought.heads[head].lengthenName(choice); break;
+            }
+        }
+
+        /** The choice by which one has most followers behind n nights, or how many these are. */
+        int bestChoice(Land now, int head, int n, int trait, boolean howMany) {
+            int choices = choicesOf(trait);
             int best = NONE;
             int most = NONE;
-            for (int letter = 0; letter < LETTERS && !now.heads[head].hasFullName(); letter++) {
+            for (int choice = 0; choice < choices; choice++) {
                 think(now);
-                thought.heads[head].lengthenName(letter);
+                choose(head, trait, choice);
                 thought.passNights(n);
                 if (thought.heads[head].followers > most) {
-                    best = letter;
+                    best = choice;
                     most = thought.heads[head].followers;
                 }
             }
@@ -1532,37 +1498,15 @@ public final class GoInland {
             return best;
         }
 
-        int kindsOfWay(Land now, int head, int[] way, int size) {
+        /** The choices, in bits, by which one goes a way told. */
+        int choicesOfWay(Land now, int head, int trait, int[] way, int size) {
+            int choices = choicesOf(trait);
             int bits = 0;
-            for (int kind = 0; kind < KINDS; kind++) {
+            for (int choice = 0; choice < choices; choice++) {
                 think(now);
-                thought.heads[head].kind = kind;
+                choose(head, trait, choice);
                 if (goesThatWay(head, way, size)) {
-                    bits |= 1 << kind;
-                }
-            }
-            return bits;
-        }
-
-        int figuresOfWay(Land now, int head, int[] way, int size) {
-            int bits = 0;
-            for (int figure = 0; figure <= MOST_FIGURE; figure++) {
-                think(now);
-                thought.heads[head].figure = figure;
-                if (goesThatWay(head, way, size)) {
-                    bits |= 1 << figure;
-                }
-            }
-            return bits;
-        }
-
-        int wordsOfWay(Land now, int head, int[] way, int size) {
-            int bits = 0;
-            for (int word = 0; word < WORDS; word++) {
-                think(now);
-                thought.heads[head].word = word;
-                if (goesThatWay(head, way, size)) {
-                    bits |= 1 << word;
+                    bits |= 1 << choice;
                 }
             }
             return bits;
@@ -1603,7 +1547,7 @@ public final class GoInland {
 
         private void restIf(int head, int choice) {
             if (choice == 1) {
-                thought.heads[head].word = REST;
+                choose(head, HER_WORD, REST);
             }
         }
 
