@@ -1,8 +1,5 @@
 /** For each promise of DOC.md cases worked out by hand: ordinary ones, edges, wrong inputs. */
-public final class PromisesTest {
-    private static int wrong;
-    private static String promise = "";
-
+public final class PromisesTest extends Check {
     public static void main(String[] args) {
         newObject();
         feed();
@@ -56,65 +53,11 @@ public final class PromisesTest {
         lots();
         image();
         count();
-        if (wrong > 0) {
-            System.out.println(wrong + " answers are not as due");
-            System.exit(1);
-        }
-        System.out.println("all answers are as due");
-    }
-
-    private static void due(String call, long got, long want) {
-        if (got != want) {
-            wrong++;
-            System.out.println("promise " + promise + ": " + call + " answered " + got + ", due is " + want);
-        }
-    }
-
-    private static void tellLetters(GoInland x, String text) {
-        for (int i = 0; i < text.length(); i++) {
-            x.feed(text.charAt(i));
-        }
-    }
-
-    private static int tell(GoInland x, String text) {
-        tellLetters(x, text);
-        return x.land();
-    }
-
-    /** A new object on which lands were told that have no fault. */
-    private static GoInland told(String... texts) {
-        GoInland x = new GoInland();
-        for (String text : texts) {
-            int answer = tell(x, text);
-            if (answer <= 0) {
-                due("the land " + text, answer, 1);
-            }
-        }
-        return x;
-    }
-
-    private static String lineOf(GoInland x, int head) {
-        StringBuilder line = new StringBuilder();
-        for (int i = 0; i < 20 && x.line(head, i) >= 0; i++) {
-            line.append((char) x.line(head, i));
-        }
-        return line.toString();
-    }
-
-    private static void dueLine(GoInland x, int head, String want) {
-        String got = lineOf(x, head);
-        if (!got.equals(want)) {
-            wrong++;
-            System.out.println("promise " + promise + ": line of " + head + " is " + got + ", due is " + want);
-        }
-    }
-
-    private static long refused(int refusal) {
-        return 4000000000000000000L - refusal;
+        end();
     }
 
     private static void newObject() {
-        promise = "1";
+        promise("1");
         GoInland x = new GoInland();
         for (int what = 0; what <= 9; what++) {
             due("count(" + what + ")", x.count(what), 0);
@@ -130,7 +73,7 @@ public final class PromisesTest {
     }
 
     private static void feed() {
-        promise = "2";
+        promise("2");
         GoInland x = new GoInland();
         due("feed(-1)", x.feed(-1), -4);
         due("feed(256)", x.feed(256), -6);
@@ -157,7 +100,7 @@ public final class PromisesTest {
     }
 
     private static void landForm() {
-        promise = "3, form";
+        promise("3, form");
         GoInland x = new GoInland();
         dueLand(x, "", -1000);
         dueLand(x, "l", -1001);
@@ -200,7 +143,7 @@ public final class PromisesTest {
     }
 
     private static void landStatements() {
-        promise = "3, statements";
+        promise("3, statements");
         GoInland x = new GoInland();
         String[] bad = {
             "rock 1 2;", "wal 1 2;", "walls 1 2;", "wall 1;", "wall 1 2 3;", "wall a 2;", "wall 1 a;", "wall 48 2;", "wall 1 10;",
@@ -233,9 +176,7 @@ public final class PromisesTest {
         dueLand(x, "lady 1 d 1;lady 1 e 1;", 2);
         dueLand(x, "lady 1 f 1;", -2000);
         GoInland late = new GoInland();
-        for (int i = 0; i < 16; i++) {
-            late.nights(60);
-        }
+        passTo960(late);
         dueLand(late, "nights 40;", -2000);
         dueLand(late, "nights 20;nights 20;", -2010);
         due("night", late.count(1), 960);
@@ -244,7 +185,7 @@ public final class PromisesTest {
     }
 
     private static void landComes() {
-        promise = "3, what comes";
+        promise("3, what comes");
         GoInland x = new GoInland();
         dueLand(x, "wall 7 9;folk 47 8 z;queen 9 abcdef 0;face 0 w;does 0 left;joins 0 99;", 6);
         due("wall", x.field(7, 0), 9);
@@ -290,7 +231,7 @@ public final class PromisesTest {
     }
 
     private static void headOfEachKind() {
-        promise = "4";
+        promise("4");
         int[][] steps = {{1, 1, 1}, {2, 2, 2}, {1, 2, 4}, {1, 1, 1}, {1, 1, 1}, {0, 0, 0}, {2, 3, 5}, {2, 2, 2}};
         int[][] weights = {{1, 6, 10}, {2, 12, 20}, {9, 9, 9}, {0, 3, 5}, {5, 15, 23}, {2, 5, 7}, {9, 4, 0}, {5, 15, 23}};
         int[][] enough = {{20, 20, 20}, {40, 40, 40}, {99, 99, 99}, {5, 10, 14}, {35, 35, 35}, {5, 10, 14}, {49, 49, 49}, {35, 33, 31}};
@@ -322,7 +263,7 @@ public final class PromisesTest {
     }
 
     private static void headOfNightsAndNames() {
-        promise = "4, nights and names";
+        promise("4, nights and names");
         GoInland x = told("queen 5 b 0;child 5 b 9;saint 5 b 18;collier 5 b 27;pirate 5 b 36;");
         x.nights(27);
         due("queen's veers in 28", x.head(0, 10), 1);
@@ -362,7 +303,7 @@ public final class PromisesTest {
     }
 
     private static void field() {
-        promise = "5";
+        promise("5");
         GoInland x = told("wall 47 3;folk 0 7 c;lady 1 a 5;lady 1 a 5;lady 1 a 6;");
         due("wall", x.field(47, 0), 3);
         due("people", x.field(0, 1), 7);
@@ -377,7 +318,7 @@ public final class PromisesTest {
     }
 
     private static void comes() {
-        promise = "6";
+        promise("6");
         GoInland x = new GoInland();
         x.walls(1, 1);
         due("comes(8, -1, 0, 0)", x.comes(8, -1, 0, 0), -2);
@@ -403,7 +344,7 @@ public final class PromisesTest {
     }
 
     private static void named() {
-        promise = "7";
+        promise("7");
         GoInland x = told("lady 1 ab 5;");
         due("named(1, 0)", x.named(1, 0), -1);
         due("named(-1, -1)", x.named(-1, -1), -1);
@@ -420,7 +361,7 @@ public final class PromisesTest {
     }
 
     private static void faces() {
-        promise = "8";
+        promise("8");
         GoInland x = told("lady 1 ab 5;");
         due("faces(0, 3)", x.faces(0, 3), 0);
         due("faces(0, 1)", x.faces(0, 1), 3);
@@ -434,7 +375,7 @@ public final class PromisesTest {
     }
 
     private static void does() {
-        promise = "9";
+        promise("9");
         GoInland x = told("lady 1 ab 5;");
         due("does(0, 4)", x.does(0, 4), 0);
         due("does(0, 1)", x.does(0, 1), 4);
@@ -446,7 +387,7 @@ public final class PromisesTest {
     }
 
     private static void joins() {
-        promise = "10";
+        promise("10");
         GoInland x = told("lady 1 ab 5;");
         due("joins(0, 99)", x.joins(0, 99), 0);
         due("joins(0, 0)", x.joins(0, 0), 99);
@@ -460,7 +401,7 @@ public final class PromisesTest {
     }
 
     private static void walls() {
-        promise = "11";
+        promise("11");
         GoInland x = new GoInland();
         due("walls(47, 9)", x.walls(47, 9), 0);
         due("walls(47, 0)", x.walls(47, 0), 9);
@@ -474,7 +415,7 @@ public final class PromisesTest {
     }
 
     private static void folk() {
-        promise = "12";
+        promise("12");
         GoInland x = new GoInland();
         due("folk(47, 9, 25)", x.folk(47, 9, 25), 0);
         due("folk(47, 3, 1)", x.folk(47, 3, 1), 259);
@@ -488,7 +429,7 @@ public final class PromisesTest {
     }
 
     private static void nightsRefused() {
-        promise = "13";
+        promise("13");
         GoInland x = new GoInland();
         due("nights(0)", x.nights(0), -4);
         due("nights(-1)", x.nights(-1), -4);
@@ -505,7 +446,7 @@ public final class PromisesTest {
     }
 
     private static void nightsWallsAndEdges() {
-        promise = "13, walls and edges";
+        promise("13, walls and edges");
         GoInland x = told("lady 0 ann 9;wall 1 2;");
         x.nights(1);
         due("wall behind 1", x.field(1, 0), 1);
@@ -554,7 +495,7 @@ public final class PromisesTest {
     }
 
     private static void nightsVeers() {
-        promise = "13, veers and words";
+        promise("13, veers and words");
         GoInland queen = told("queen 0 b 40;");
         int[] fields = {24, 8, 0, 0, 2};
         String[] facings = {"n", "n", "s", "e", "e"};
@@ -587,7 +528,7 @@ public final class PromisesTest {
     }
 
     private static void nightsFollow() {
-        promise = "13, who follows";
+        promise("13, who follows");
         GoInland x = told("lady 4 ann 0;face 0 e;folk 1 9 n;folk 2 9 b;folk 3 5 a;folk 0 3 a;");
         x.nights(1);
         due("followers", x.head(0, 5), 9);
@@ -610,7 +551,7 @@ public final class PromisesTest {
     }
 
     private static void nightsMeet() {
-        promise = "13, who meets";
+        promise("13, who meets");
         GoInland x = told("lady 4 a 0;face 0 e;lady 2 b 1;does 1 rest;joins 1 9;");
         due("nights(1)", x.nights(1), 1);
         dueLine(x, 0, "a 1e4");
@@ -650,7 +591,7 @@ public final class PromisesTest {
     }
 
     private static void nightsLesser() {
-        promise = "13, the lesser";
+        promise("13, the lesser");
         GoInland name = told("lady 1 ab 0;face 0 e;lady 1 aa 1;does 1 rest;");
         name.nights(1);
         dueLine(name, 0, "ab 1e0");
@@ -674,7 +615,7 @@ public final class PromisesTest {
     }
 
     private static void nightsSettle() {
-        promise = "13, who settles";
+        promise("13, who settles");
         GoInland x = told("lady 0 a 20;joins 0 20;lady 0 a 22;joins 1 19;lady 0 a 24;joins 2 21;does 2 rest;");
         x.nights(1);
         dueLine(x, 0, "a 12n!");
@@ -698,7 +639,7 @@ public final class PromisesTest {
     }
 
     private static void back() {
-        promise = "14";
+        promise("14");
         GoInland x = told("lady 1 ab 20;folk 12 5 a;");
         due("back() of none", x.back(), -3);
         x.named(0, 2);
@@ -751,7 +692,7 @@ public final class PromisesTest {
     }
 
     private static void headThen() {
-        promise = "15";
+        promise("15");
         GoInland x = told("lady 0 a 40;folk 24 9 a;joins 0 11;");
         due("field behind 0", x.headThen(0, 0, 0), 40);
         due("field behind 2", x.headThen(0, 2, 0), 24);
@@ -772,16 +713,14 @@ public final class PromisesTest {
         GoInland turned = told("lady 0 a 0;");
         due("facing behind 1", turned.headThen(0, 1, 1), 2);
         GoInland late = new GoInland();
-        for (int i = 0; i < 16; i++) {
-            late.nights(60);
-        }
+        passTo960(late);
         late.nights(39);
         late.comes(1, 0, 40, 1);
         due("the night may pass 999", late.headThen(0, 1, 1), 1);
     }
 
     private static void then() {
-        promise = "16";
+        promise("16");
         GoInland x = told("lady 0 a 40;folk 24 9 a;joins 0 11;folk 3 4 b;wall 3 5;lady 0 b 11;");
         due("told behind 5", x.then(5, 0), 0);
         due("settled behind 1", x.then(1, 1), 0);
@@ -812,7 +751,7 @@ public final class PromisesTest {
     }
 
     private static void when() {
-        promise = "17";
+        promise("17");
         GoInland x = told("lady 0 a 40;lady 0 b 7;does 1 rest;");
         due("when(0, 40)", x.when(0, 40), 0);
         due("when(0, 24)", x.when(0, 24), 2);
@@ -836,7 +775,7 @@ public final class PromisesTest {
     }
 
     private static void settles() {
-        promise = "18";
+        promise("18");
         GoInland x = told("lady 0 a 40;folk 8 9 a;joins 0 11;lady 0 b 47;joins 1 20;does 1 rest;");
         due("settles(0)", x.settles(0), 4);
         due("settles(1)", x.settles(1), -9);
@@ -870,7 +809,7 @@ public final class PromisesTest {
     }
 
     private static void meeting() {
-        promise = "19";
+        promise("19");
         GoInland x = told("lady 0 a 40;lady 0 b 8;does 1 rest;lady 0 c 8;does 2 rest;lady 0 d 9;does 3 rest;");
         due("meeting(0, 1)", x.meeting(0, 1), 4);
         due("meeting(1, 0)", x.meeting(1, 0), 4);
@@ -889,7 +828,7 @@ public final class PromisesTest {
     }
 
     private static void bestWord() {
-        promise = "20";
+        promise("20");
         GoInland x = told("lady 0 a 18;folk 17 3 a;folk 19 5 a;folk 26 5 a;folk 10 2 a;");
         due("bestWord(0, 1, 0)", x.bestWord(0, 1, 0), 2);
         due("bestWord(0, 1, 1)", x.bestWord(0, 1, 1), 5);
@@ -915,7 +854,7 @@ public final class PromisesTest {
     }
 
     private static void bestLetter() {
-        promise = "21";
+        promise("21");
         GoInland x = told("lady 0 abcde 18;folk 10 3 q;folk 2 3 z;");
         due("bestLetter(0, 1, 0)", x.bestLetter(0, 1, 0), 16);
         due("bestLetter(0, 2, 0)", x.bestLetter(0, 2, 0), 16);
@@ -937,7 +876,7 @@ public final class PromisesTest {
     }
 
     private static void holds() {
-        promise = "22";
+        promise("22");
         GoInland x = told("lady 1 a 40;");
         due("24 in 1", x.holds(0, 24, 1), 0);
         due("32 in 1", x.holds(0, 32, 1), 1);
@@ -959,7 +898,7 @@ public final class PromisesTest {
     }
 
     private static void wallFor() {
-        promise = "23";
+        promise("23");
         GoInland x = told("queen 0 b 40;");
         due("on 24 behind 1, whatever", x.wallFor(0, 24, 1), 0);
         due("on 32 behind 1", x.wallFor(0, 32, 1), 24);
@@ -980,7 +919,7 @@ public final class PromisesTest {
     }
 
     private static void names() {
-        promise = "24";
+        promise("24");
         GoInland x = told("lady 0 a 18;lady 0 b 20;lady 0 c 22;folk 10 3 b;folk 12 4 c;");
         due("names(0)", x.names(0), -9);
         due("1 and 2: 4 more", x.names(1), 12);
@@ -1000,7 +939,7 @@ public final class PromisesTest {
     }
 
     private static void whatKind() {
-        promise = "25";
+        promise("25");
         GoInland x = told("lady 3 b 20;");
         due("an empty row", x.whatKind(0, 0), 255);
         due("an empty row", x.whatKind(0, 1), 1023);
@@ -1036,7 +975,7 @@ public final class PromisesTest {
     }
 
     private static void whatWord() {
-        promise = "26";
+        promise("26");
         GoInland x = told("lady 3 b 0;");
         due("an empty row", x.whatWord(0), 31);
         x.row(0);
@@ -1063,7 +1002,7 @@ public final class PromisesTest {
     }
 
     private static void two() {
-        promise = "27";
+        promise("27");
         GoInland x = told("lady 0 a 18;lady 0 a 20;folk 10 4 a;folk 12 6 a;");
         due("5 for rest above 4, below 6", x.two(0, 1, 1), 10);
         due("two(1, 0, 1)", x.two(1, 0, 1), 1);
@@ -1093,7 +1032,7 @@ public final class PromisesTest {
     }
 
     private static void rain() {
-        promise = "28";
+        promise("28");
         GoInland x = told("lady 0 a 40;");
         dueRain(x, 0, 40, 0, 2, 1, 1);
         dueRain(x, 0, 32, 0, 2, 0, 1);
@@ -1131,7 +1070,7 @@ public final class PromisesTest {
     }
 
     private static void like() {
-        promise = "29";
+        promise("29");
         GoInland x = told("lady 0 anna 1;lady 0 annex 1;lady 0 xenna 1;lady 0 q 1;");
         due("places", x.like(0, 1, 0), 3);
         due("ahead", x.like(0, 1, 1), 3);
@@ -1156,7 +1095,7 @@ public final class PromisesTest {
     }
 
     private static void rank() {
-        promise = "30";
+        promise("30");
         GoInland x = told("lady 0 bob 1;lady 0 bo 1;lady 0 ann 1;lady 0 bob 1;lady 0 c 1;");
         due("bob", x.rank(0), 2);
         due("bo", x.rank(1), 1);
@@ -1172,7 +1111,7 @@ public final class PromisesTest {
     }
 
     private static void line() {
-        promise = "31";
+        promise("31");
         GoInland x = told("lady 0 bob 7;joins 0 20;does 0 left;lady 0 z 47;face 1 e;joins 1 99;");
         due("line(0, 0)", x.line(0, 0), 'b');
         due("line(0, 3)", x.line(0, 3), ' ');
@@ -1193,7 +1132,7 @@ public final class PromisesTest {
     }
 
     private static void power() {
-        promise = "32";
+        promise("32");
         GoInland x = told("lady 0 a 1;joins 0 2;lady 0 a 1;joins 1 1;lady 0 a 1;joins 2 1;");
         due("2 of 2, 1, 1", x.power(0), 3);
         due("1 of 2, 1, 1", x.power(1), 1);
@@ -1211,7 +1150,7 @@ public final class PromisesTest {
     }
 
     private static void share() {
-        promise = "33";
+        promise("33");
         GoInland x = told("lady 0 a 1;joins 0 6;lady 0 a 1;joins 1 9;lady 0 a 1;");
         due("share(0, 0)", x.share(0, 0), 2);
         due("share(0, 1)", x.share(0, 1), 5);
@@ -1234,7 +1173,7 @@ public final class PromisesTest {
     }
 
     private static void nearest() {
-        promise = "34";
+        promise("34");
         GoInland x = told("lady 0 a 0;lady 0 a 47;lady 0 a 9;lady 0 a 18;");
         due("nearest(0, 0)", x.nearest(0, 0), 0);
         due("nearest(0, 1)", x.nearest(0, 1), 0);
@@ -1255,7 +1194,7 @@ public final class PromisesTest {
     }
 
     private static void way() {
-        promise = "35";
+        promise("35");
         GoInland x = new GoInland();
         due("way(0, 47)", x.way(0, 47), 12);
         due("way(7, 8)", x.way(7, 8), 8);
@@ -1291,7 +1230,7 @@ public final class PromisesTest {
     }
 
     private static void sight() {
-        promise = "36";
+        promise("36");
         GoInland x = told("lady 0 anouk 0;lady 0 b 1;lady 0 eieio 1;lady 0 xyz 3;folk 1 5 a;folk 2 7 c;folk 3 4 f;");
         due("vowels", x.sight(0), 8);
         due("hungry", x.sight(1), 11);
@@ -1307,7 +1246,7 @@ public final class PromisesTest {
     }
 
     private static void kinds() {
-        promise = "37";
+        promise("37");
         GoInland x = told("lady 0 a 0;queen 0 b 1;queen 0 c 1;mermaid 0 d 1;");
         due("kinds(0)", x.kinds(0), 1);
         due("kinds(1)", x.kinds(1), 2);
@@ -1318,7 +1257,7 @@ public final class PromisesTest {
     }
 
     private static void row() {
-        promise = "38";
+        promise("38");
         GoInland x = new GoInland();
         due("row(-1)", x.row(-1), -4);
         due("row(100)", x.row(100), -6);
@@ -1333,7 +1272,7 @@ public final class PromisesTest {
     }
 
     private static void judge() {
-        promise = "39";
+        promise("39");
         GoInland x = told("lady 0 a 7;lady 0 a 8;");
         due("an empty row", x.judge(), -9);
         x.row(7);
@@ -1359,7 +1298,7 @@ public final class PromisesTest {
     }
 
     private static void clear() {
-        promise = "40";
+        promise("40");
         GoInland x = new GoInland();
         due("clear()", x.clear(), 0);
         x.row(1);
@@ -1393,7 +1332,7 @@ public final class PromisesTest {
     }
 
     private static void lots() {
-        promise = "41";
+        promise("41");
         GoInland x = lotsLand(false);
         int allTold = 0;
         int allSettled = 0;
@@ -1440,7 +1379,7 @@ public final class PromisesTest {
     }
 
     private static void image() {
-        promise = "42, 43";
+        promise("42, 43");
         GoInland x = told("lady 0 a 40;wall 3 3;folk 5 5 f;nights 2;");
         due("restore()", x.restore(), -3);
         due("image()", x.image(), 2);
@@ -1500,7 +1439,7 @@ public final class PromisesTest {
     }
 
     private static void count() {
-        promise = "44";
+        promise("44");
         GoInland x = told("lady 0 a 40;joins 0 20;lady 0 b 9;joins 1 7;folk 1 5 a;folk 2 4 a;wall 3 9;wall 4 2;");
         x.feed(97);
         x.row(3);
