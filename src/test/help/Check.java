@@ -73,6 +73,19 @@ abstract class Check {
         dueText("line of " + head, lineOf(x, head), want);
     }
 
+    /** A land told, with FAULT or without: its letters are no more then. */
+    static void dueLand(GoInland x, String text, int want) {
+        due("the land \"" + text + "\"", tell(x, text), want);
+        due("letters behind \"" + text + "\"", x.count(7), 0);
+    }
+
+    /** RAIN, above and below the line. */
+    static void dueRain(GoInland x, int head, int field, int n, int t, long above, long below) {
+        String call = "rain(" + head + ", " + field + ", " + n + ", " + t + ")";
+        due(call + " above", x.rain(head, field, n, t, 0), above);
+        due(call + " below", x.rain(head, field, n, t, 1), below);
+    }
+
     /** What a call that answers a long answers if it is refused. */
     static long refused(int refusal) {
         return 4000000000000000000L - refusal;

@@ -569,12 +569,6 @@ public final class AnswerEdgesTest extends Check {
         due("as ever is to rest, without 5", rests.two(0, 1, 30), 11);
     }
 
-    private static void dueRain(GoInland x, int head, int field, int n, int t, long above, long below) {
-        String call = "rain(" + head + ", " + field + ", " + n + ", " + t + ")";
-        due(call + " above", x.rain(head, field, n, t, 0), above);
-        due(call + " below", x.rain(head, field, n, t, 1), below);
-    }
-
     private static void rainOfNone() {
         promise("28, RAIN, 0 as 0 over 1");
         GoInland x = told("lady 0 a 40;");

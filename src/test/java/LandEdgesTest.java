@@ -24,11 +24,6 @@ public final class LandEdgesTest extends Check {
         end();
     }
 
-    private static void dueLand(GoInland x, String text, int want) {
-        due("the land \"" + text + "\"", tell(x, text), want);
-        due("letters behind \"" + text + "\"", x.count(7), 0);
-    }
-
     private static void dueLand(String text, int want) {
         dueLand(new GoInland(), text, want);
     }
@@ -243,13 +238,18 @@ public final class LandEdgesTest extends Check {
             "does 0 on 1;", "joins a 1;", "joins 0 a;", "joins 0;", "joins a;", "joins 0 1 1;", "joins 0 1 a;", "nights a;", "nights 1 1;",
             "nights 1 a;", "nights 1 1 1;",
         };
-        GoInland x = told("lady 0 a 47;");
-        for (String text : bad) {
+        dueAtFault(bad);
+    }
+
+    /** Each text, where a HEAD is there already: nothing of it comes. */
+    private static void dueAtFault(String[] texts) {
+        for (String text : texts) {
+            GoInland x = told("lady 0 a 47;");
             dueLand(x, text, -2000);
+            due("HEADS", x.count(0), 1);
+            due("NIGHT", x.count(1), 0);
+            dueLine(x, 0, "a 47n0");
         }
-        due("HEADS", x.count(0), 1);
-        due("NIGHT", x.count(1), 0);
-        dueLine(x, 0, "a 47n0");
     }
 
     private static void wordsAlmostRight() {
@@ -261,12 +261,7 @@ public final class LandEdgesTest extends Check {
             "face 0 ns;", "face 0 o;", "face 0 north;", "does 0 o;", "does 0 onn;", "does 0 lef;", "does 0 lefts;", "does 0 rights;", "does 0 bac;",
             "does 0 res;", "does 0 rests;", "does 0 n;", "face 0 on;",
         };
-        GoInland x = told("lady 0 a 47;");
-        for (String text : bad) {
-            dueLand(x, text, -2000);
-        }
-        due("HEADS", x.count(0), 1);
-        dueLine(x, 0, "a 47n0");
+        dueAtFault(bad);
     }
 
     private static void headsThatAreThere() {

@@ -94,11 +94,6 @@ public final class PromisesTest extends Check {
         due("feed(97)", x.feed(97), 1);
     }
 
-    private static void dueLand(GoInland x, String text, int want) {
-        due("land of \"" + text + "\"", tell(x, text), want);
-        due("letters behind \"" + text + "\"", x.count(7), 0);
-    }
-
     private static void landForm() {
         promise("3, form");
         GoInland x = new GoInland();
@@ -144,7 +139,6 @@ public final class PromisesTest extends Check {
 
     private static void landStatements() {
         promise("3, statements");
-        GoInland x = new GoInland();
         String[] bad = {
             "rock 1 2;", "wal 1 2;", "walls 1 2;", "wall 1;", "wall 1 2 3;", "wall a 2;", "wall 1 a;", "wall 48 2;", "wall 1 10;",
             "folk 3 10 z;", "folk 48 9 z;", "folk 3 9 zz;", "folk 3 9 5;", "folk 3 9;", "folk z 9 z;", "folk 3 z z;",
@@ -153,19 +147,20 @@ public final class PromisesTest extends Check {
             "head 1 a 1;", "on 1 a 1;", "n 1 a 1;",
         };
         for (String text : bad) {
-            dueLand(x, text, -2000);
+            GoInland none = new GoInland();
+            dueLand(none, text, -2000);
+            due("count(0)", none.count(0), 0);
+            due("count(1)", none.count(1), 0);
         }
-        due("count(0)", x.count(0), 0);
-        due("count(1)", x.count(1), 0);
-        dueLand(x, "lady 1 a 1;", 1);
         String[] badOfHead = {
             "face 0 x;", "face 0 ne;", "face 0 1;", "face 1 n;", "face a n;", "face 0;", "face 0 n n;",
             "does 0 up;", "does 0 1;", "does 1 on;", "does a on;", "does 0;", "does 0 on on;",
             "joins 0 a;", "joins 1 1;", "joins a 1;", "joins 0;", "joins 0 1 1;",
         };
         for (String text : badOfHead) {
-            dueLand(x, text, -2000);
+            dueLand(told("lady 1 a 1;"), text, -2000);
         }
+        GoInland x = told("lady 1 a 1;");
         dueLand(x, "wall 1 2;wall 48 1;", -2009);
         due("nothing of it came", x.field(1, 0), 0);
         dueLand(x, "lady 1 b 1;joins 1 5;joins 2 5;lady 1 c 1;", -2021);
@@ -1023,12 +1018,6 @@ public final class PromisesTest extends Check {
         due("the same, seen from the other", none.two(1, 0, 1), -9);
         none.joins(0, 8);
         due("half of 8 is not worth her way", none.two(0, 1, 1), 11);
-    }
-
-    private static void dueRain(GoInland x, int head, int field, int n, int t, long above, long below) {
-        String call = "rain(" + head + ", " + field + ", " + n + ", " + t + ")";
-        due(call + " above", x.rain(head, field, n, t, 0), above);
-        due(call + " below", x.rain(head, field, n, t, 1), below);
     }
 
     private static void rain() {
