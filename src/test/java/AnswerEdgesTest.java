@@ -21,6 +21,7 @@ public final class AnswerEdgesTest extends Check {
         rainOfMost();
         like();
         rank();
+        nameOfHerOwn();
         line();
         power();
         share();
@@ -645,6 +646,47 @@ public final class AnswerEdgesTest extends Check {
             due("of five down", down.rank(head), downs[head]);
         }
         due("of one", told("lady 0 z 0;").rank(0), 0);
+    }
+
+    /** A HEAD comes where there was one, by then no more, of a longer NAME: only letters of her own tell. */
+    private static GoInland afterLonger(int letter) {
+        GoInland x = new GoInland();
+        x.image();
+        x.comes(0, 0, 0, 1);
+        x.named(0, 25);
+        x.named(0, 25);
+        x.restore();
+        x.comes(0, 0, 40, 1);
+        x.comes(0, 0, 40, 1);
+        x.named(1, letter);
+        return x;
+    }
+
+    private static void nameOfHerOwn() {
+        promise("29, 30, where a NAME ends");
+        int[] letters = {0, 25};
+        for (int letter : letters) {
+            GoInland x = afterLonger(letter);
+            for (int what = 0; what < 3; what++) {
+                due("LIKE of b and a longer one", x.like(0, 1, what), 1);
+                due("LIKE of a longer one and b", x.like(1, 0, what), 1);
+            }
+            due("RANK of b", x.rank(0), 0);
+            due("RANK of a longer one", x.rank(1), 1);
+            dueLine(x, 0, "b 40n0");
+            x.joins(0, 2);
+            x.joins(1, 2);
+            x.walls(32, 9);
+            x.does(1, 4);
+            x.nights(1);
+            due("the LESSER of both", x.head(0, 5), 1);
+        }
+        GoInland z = afterLonger(25);
+        z.comes(0, 0, 0, 25);
+        z.comes(0, 0, 0, 0);
+        z.folk(32, 9, 25);
+        due("whose PEOPLE z has", z.headThen(0, 1, 2) + z.headThen(1, 1, 2), 9);
+        due("b has none of them", z.headThen(0, 1, 2), 0);
     }
 
     private static void dueLetters(GoInland x, int head, String line) {
