@@ -1358,7 +1358,12 @@ public final class GoInland {
         private static final int HER_WORD = 2;
         private static final int HER_NEXT_LETTER = 3;
 
+        private static final int PAIRS = 4;
+
         private final Land thought = new Land();
+        /** What each of two has by each pair of their choices. */
+        private final int[] ones = new int[PAIRS];
+        private final int[] others = new int[PAIRS];
         private int seed;
 
         Land think(Land now) {
@@ -1527,9 +1532,7 @@ public final class GoInland {
 
         /** The first pair of choices, 0 as ever or 1 rest, of which neither would have more by her other one. */
         int steadyPair(Land now, int one, int other, int n) {
-            int[] ones = new int[4];
-            int[] others = new int[4];
-            for (int pair = 0; pair < 4; pair++) {
+            for (int pair = 0; pair < PAIRS; pair++) {
                 think(now);
                 restIf(one, pair >> 1);
                 restIf(other, pair & 1);
@@ -1537,7 +1540,7 @@ public final class GoInland {
                 ones[pair] = thought.heads[one].followers + REST_GAIN * (pair >> 1);
                 others[pair] = thought.heads[other].followers + REST_GAIN * (pair & 1);
             }
-            for (int pair = 0; pair < 4; pair++) {
+            for (int pair = 0; pair < PAIRS; pair++) {
                 if (ones[pair ^ 2] <= ones[pair] && others[pair ^ 1] <= others[pair]) {
                     return 10 * (pair >> 1) + (pair & 1);
                 }

@@ -362,6 +362,9 @@ public final class AnswerEdgesTest extends Check {
         GoInland collier = told("collier 9 z 40;does 0 left;folk 32 3 z;");
         due("any letter has a COLLIER go", collier.bestLetter(0, 1, 0), 0);
         due("any letter has a COLLIER go", collier.bestLetter(0, 1, 1), 3);
+        GoInland met = told("lady 0 az 20;does 0 rest;joins 0 8;lady 0 a 28;joins 1 4;");
+        due("no letter is behind z, so she is the LESSER by any", met.bestLetter(1, 1, 0), 0);
+        due("and half of hers are the other's", met.bestLetter(1, 1, 1), 2);
     }
 
     private static void holds() {

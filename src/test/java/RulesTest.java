@@ -7,7 +7,9 @@ import java.lang.reflect.Modifier;
 import java.nio.file.Files;
 import java.nio.file.Path;
 import java.util.Arrays;
+import java.util.Map;
 import java.util.Set;
+import java.util.TreeMap;
 import java.util.TreeSet;
 import java.util.regex.Matcher;
 import java.util.regex.Pattern;
@@ -22,6 +24,8 @@ public final class RulesTest {
         "^package ", "\\bequals\\(Object", "\\bhashCode\\b", "\\btoString\\b", "Exact\\(", "\\bSystem\\.(?!arraycopy)", "\" \\+", "\\+ \"", "\\bsuper\\b.*\\?",
     };
     private static final int MOST_LINES = 60;
+    private static final int MOST_PARAMETERS = 7;
+    private static final int MOST_DEPTH = 8;
     private static final long MOST_BYTES = 400_000;
     /** As many as an object that has been filled may be asked yet. */
     private static final int MOST_CALLS = 500;
@@ -75,6 +79,10 @@ public final class RulesTest {
         for (Class<?> inside : GoInland.class.getDeclaredClasses()) {
             hold(Modifier.isStatic(inside.getModifiers()) && Modifier.isPrivate(inside.getModifiers()), "not private and static: " + inside);
             fields(inside);
+            for (Method method : inside.getDeclaredMethods()) {
+                hold(!FACE.matches("(.* )?" + method.getName() + "[0-9].*"), "a method inside bears the name of a public one: " + method);
+                hold(method.getParameterCount() <= MOST_PARAMETERS, "too many parameters: " + method);
+            }
         }
     }
 
@@ -97,6 +105,7 @@ public final class RulesTest {
             Matcher matcher = Pattern.compile(forbidden, Pattern.MULTILINE).matcher(code);
             hold(!matcher.find(), "the source has " + forbidden);
         }
+        depths(code);
         int begin = 0;
         String[] lines = source.split("\n");
         for (int i = 0; i < lines.length; i++) {
@@ -107,6 +116,38 @@ public final class RulesTest {
                 begin = i;
             }
         }
+    }
+
+    /**
+     * How deep calls go, library calls counted. Methods of one name are taken for one, whosever they are, so what is
+     * found is as deep as it is or deeper; that a name calls itself is then no sign of a recursion.
+     */
+    private static void depths(String code) {
+        Map<String, Set<String>> calls = new TreeMap<>();
+        Matcher method = Pattern.compile("^( {4}| {8})(?:[a-z]+ )*[A-Za-z\\[\\]]+ ([a-z]\\w*)\\([^)]*\\) \\{$(.*?)^\\1\\}$",
+            Pattern.MULTILINE | Pattern.DOTALL).matcher(code);
+        while (method.find()) {
+            Set<String> called = calls.computeIfAbsent(method.group(2), name -> new TreeSet<>());
+            Matcher call = Pattern.compile("\\b([A-Za-z]\\w*)\\(").matcher(method.group(3));
+            while (call.find()) {
+                if (!Set.of("if", "for", "while", "switch", method.group(2)).contains(call.group(1))) {
+                    called.add(call.group(1));
+                }
+            }
+        }
+        hold(calls.keySet().containsAll(Set.of("land", "passNights", "takeTurn", "gain")), "methods seen are " + calls.keySet());
+        for (String name : calls.keySet()) {
+            int depth = depth(name, calls, 1);
+            hold(depth <= MOST_DEPTH, name + " goes " + depth + " deep");
+        }
+    }
+
+    private static int depth(String name, Map<String, Set<String>> calls, int above) {
+        int deepest = above;
+        for (String called : calls.getOrDefault(name, Set.of())) {
+            deepest = Math.max(deepest, above > MOST_DEPTH ? above : depth(called, calls, above + 1));
+        }
+        return deepest;
     }
 
     /** As many calls as an object may have of each dear one make little: all of a run live in one room. */
